@@ -403,10 +403,12 @@ public final class RingBases {
         int sign(long m, long n) {
             // Twice the number is p and n times the square root of rootsApartSquared.
             long p = 2 * m + n * a;
-            if (n == 0 || Long.signum(p) == Long.signum(n)) {
-                return Long.signum(p);
+            int signOfP = Long.compare(p, 0);
+            int signOfN = Long.compare(n, 0);
+            if (signOfN == 0 || signOfN == signOfP) {
+                return signOfP;
             }
-            return p * p > n * n * rootsApartSquared() ? Long.signum(p) : Long.signum(n);
+            return p * p > n * n * rootsApartSquared() ? signOfP : signOfN;
         }
 
         /** The greatest whole number that is not above m and n times B. */
