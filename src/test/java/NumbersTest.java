@@ -23,6 +23,7 @@ public final class NumbersTest {
         shelfGoesRound();
         shelfAtTheLastFigure();
         shelfRefused();
+        shelfWrittenAnew();
         figure();
         compare();
         beside();
@@ -418,6 +419,29 @@ public final class NumbersTest {
         for (int what : new int[] {-1, 9, Integer.MAX_VALUE, Integer.MIN_VALUE}) {
             due.is("shelf(0, " + what + ")", x.shelf(0, what), OUTSIDE);
         }
+    }
+
+    /** The same m and n in other bases, and numbers that only m or n tells apart. */
+    private static void shelfWrittenAnew() {
+        RingBases x = new RingBases();
+        x.put(0, 3, 0);
+        due.is("3 in 1, 1 is 100.01", x.shelf(0, 3), 3);
+        x.base(2, 1);
+        due.is("3 in 2, 1 is 10.11", x.shelf(0, 3), 2);
+        due.is("3 in 2, 1 ends with 1", x.figure(0, -2), 1);
+        x.undo();
+        due.is("3 in 1, 1 again", x.shelf(0, 3), 3);
+        x.base(3, 3);
+        due.is("3 in 3, 3 is 3", x.shelf(0, 3), 1);
+        x.base(3, -1);
+        due.is("3 in 3, -1 is 10.1", x.shelf(0, 3), 2);
+        x.base(1, 1);
+        x.put(1, 3, 1);
+        due.is("3 in 1, 1 once more", x.shelf(0, 3), 3);
+        due.is("3 and B in 1, 1", x.shelf(1, 3), 4);
+        x.put(2, 1, 1);
+        due.is("1 and B in 1, 1", x.shelf(2, 4), 0);
+        due.is("3 and B in 1, 1, behind the point", x.shelf(1, 4), 2);
     }
 
     // Promise 9
