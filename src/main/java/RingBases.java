@@ -146,7 +146,7 @@ public final class RingBases {
             case 5:
             case 6:
             case 7:
-                return ofWriting(shelf, what);
+                return spellShelf(shelf) ? writing.tell(what) : NOT;
             case 8:
                 return (int) now.base.wholePart(now.ms[shelf], now.ns[shelf]);
             default:
@@ -340,24 +340,6 @@ public final class RingBases {
         return true;
     }
 
-    private int ofWriting(int shelf, int what) {
-        if (!spellShelf(shelf)) {
-            return NOT;
-        }
-        switch (what) {
-            case 3:
-                return writing.ahead;
-            case 4:
-                return writing.behind;
-            case 5:
-                return writing.ends ? 1 : 0;
-            case 6:
-                return writing.lead;
-            default:
-                return writing.round;
-        }
-    }
-
     /** The base, and what can be said exactly of m and n times it. */
     private static final class Base {
         private int a = 1;
@@ -534,6 +516,22 @@ public final class RingBases {
             return k >= 0 && k < ahead + behind;
         }
 
+        /** What shelf() answers, by its own numbers 3 to 7. */
+        int tell(int what) {
+            switch (what) {
+                case 3:
+                    return ahead;
+                case 4:
+                    return behind;
+                case 5:
+                    return ends ? 1 : 0;
+                case 6:
+                    return lead;
+                default:
+                    return round;
+            }
+        }
+
         /** Writes m and n times the base, which must not be below 0. */
         void spell(Base base, int m, int n) {
             if (ofA == base.a && ofB == base.b && ofM == m && ofN == n) {
@@ -545,13 +543,13 @@ public final class RingBases {
             ofN = n;
             leftM = m;
             leftN = n;
-            spellAhead(base);
+            spellAhead(base, highestPlace(base));
             spellBehind(base);
         }
 
-        private void spellAhead(Base base) {
+        private void spellAhead(Base base, int highest) {
             ahead = 0;
-            for (int place = highestPlace(base); place >= 0; place--) {
+            for (int place = highest; place >= 0; place--) {
                 figures[ahead] = takeOut(base, powerMs[place], powerNs[place]);
                 ahead++;
             }
